@@ -6,6 +6,7 @@ public final class TapeStudio {
 
     private static final int NO_SAMPLE = -2147483648;
     private static final int LAST_DAY = 400;
+    private static final int MOST_DAYS_AT_ONCE = 100;
 
     private static final int MOST_IN_HAND = 300;
     private static final int FED_SAMPLES = 10;
@@ -213,10 +214,10 @@ public final class TapeStudio {
     }
 
     public int go(int n) {
-        if (n < 0 || n > 100) {
+        if (n < 0 || n > MOST_DAYS_AT_ONCE || shelf.now + n > LAST_DAY) {
             return NONE;
         }
-        shelf.now = Math.min(LAST_DAY, shelf.now + n);
+        shelf.now += n;
         return shelf.now;
     }
 
@@ -1689,7 +1690,7 @@ public final class TapeStudio {
             for (int done = all - 1; done >= 0; done--) {
                 int ready = readyAfter(done);
                 int fewest = NEVER;
-                for (int heap = ready; heap > 0; heap = heap - 1 & ready) {
+                for (int heap = ready; heap > 0; heap = (heap - 1) & ready) {
                     if (leftFrom(done | heap) + 1 < fewest && fitsRoom(heap)) {
                         fewest = leftFrom(done | heap) + 1;
                     }

@@ -125,7 +125,7 @@ public final class FuzzTest {
         }
         if (chance(12)) text.setCharAt(below(text.length()), " ;=/{}az09A\n\t\u00e9".charAt(below(14)));
         if (chance(12)) text.setLength(below(text.length()));
-        if (chance(20)) text.insert(below(text.length()), pick(0, 1) == 0 ? " ; " : " put ");
+        if (chance(20)) text.insert(below(text.length() + 1), pick(0, 1) == 0 ? " ; " : " put ");
         return text.length() > 1200 ? text.substring(0, 1200) : text.toString();
     }
 
