@@ -258,7 +258,7 @@ public final class TapeStudio {
     }
 
     public int score() {
-        if (scoreCount >= MOST_SCORES || scoreCount >= scores.length || reader.firstFault() != NONE) {
+        if (scoreCount >= scores.length || reader.firstFault() != NONE) {
             return NONE;
         }
         scores[scoreCount] = reader.written();
@@ -792,7 +792,7 @@ public final class TapeStudio {
             int drift = what / 1000 - 50;
             int level = what % 1000;
             if (what < 0 || drift > 50 || level > 128 || hiss < 0 || hiss > 100 || rough < 0 || rough > 200
-                    || machineCount >= MOST_MACHINES || machineCount >= machines.length) {
+                    || machineCount >= machines.length) {
                 return NONE;
             }
             machines[machineCount] = new Machine(drift, level, hiss, rough);
@@ -1757,10 +1757,11 @@ public final class TapeStudio {
         private int bestSum;
         private int fitting;
         /** By times of the tape: the longest stretch from there that some laying fits. */
-        private final Row longest = new Row();
+        private final int[] longest = new int[MOST_ON_TAPE];
         /** By times of the tape: the fewest stretches from there to its end, NEVER if it can't be. */
         private final int[] fewest = new int[MOST_ON_TAPE + 1];
-        private final Row runs = new Row();
+        /** By places of a way: the longest run from there and from the time that is measured. */
+        private final int[] runs = new int[2 * MOST_STRIP_SAMPLES];
         private int measuredMiss = NONE;
         private int measuredChanges;
 
@@ -1859,7 +1860,7 @@ public final class TapeStudio {
             if (measuredMiss == m && measuredChanges == shelf.changes) {
                 return;
             }
-            longest.silence(tape.size());
+            Arrays.fill(longest, 0);
             for (int strip = 0; strip < shelf.count; strip++) {
                 Row row = layable(strip);
                 for (int which = 0; which < WAYS && row != null; which++) {
@@ -1871,20 +1872,31 @@ public final class TapeStudio {
             measuredChanges = shelf.changes;
         }
 
-        /** From the last time on: a run that fits here is one longer than the run behind both samples. */
+        /**
+         * From the last time on: a run that fits here is one longer than the run behind both samples. Its inner loop is
+         * the one that is passed most often, so it stands on the bare arrays.
+         */
         private void measureWay(int m) {
-            runs.silence(way.size() + 1);
+            int[] heard = way.samples;
+            int places = Math.min(way.size(), Math.min(heard.length, runs.length - 1));
+            Arrays.fill(runs, 0);
             for (int t = tape.size() - 1; t >= 0; t--) {
                 int sample = tape.get(t);
-                int most = longest.get(t);
-                for (int place = 0; place < way.size(); place++) {
-                    boolean fits = Math.abs(sample - way.get(place)) <= m;
-                    int run = fits ? runs.get(place + 1) + 1 : 0;
-                    runs.set(place, run);
-                    most = Math.max(most, run);
+                int most = longestFrom(t);
+                for (int place = 0; place < places; place++) {
+                    int miss = Math.abs(sample - heard[place]);
+                    int run = miss <= m ? runs[place + 1] + 1 : 0;
+                    runs[place] = run;
+                    if (run > most) {
+                        most = run;
+                    }
                 }
-                longest.set(t, most);
+                setEntry(longest, t, most);
             }
+        }
+
+        private int longestFrom(int t) {
+            return entry(longest, t, 0);
         }
 
         /** Whether stretches cover the whole tape; how many from each time on is kept then. */
@@ -1896,7 +1908,7 @@ public final class TapeStudio {
             setEntry(fewest, tape.size(), 0);
             for (int t = tape.size() - 1; t >= 0; t--) {
                 int least = NEVER;
-                for (int size = w; size <= longest.get(t); size++) {
+                for (int size = w; size <= longestFrom(t); size++) {
                     least = Math.min(least, fewestFrom(t + size) + 1);
                 }
                 setEntry(fewest, t, least);
@@ -1924,7 +1936,7 @@ public final class TapeStudio {
         }
 
         private int longestOfFewest(int t, int w) {
-            for (int size = longest.get(t); size >= w; size--) {
+            for (int size = longestFrom(t); size >= w; size--) {
                 if (fewestFrom(t + size) + 1 == fewestFrom(t)) {
                     return size;
                 }
@@ -1939,7 +1951,7 @@ public final class TapeStudio {
             measure(m);
             int found = 0;
             for (int t = 0; t < tape.size(); t++) {
-                if (longest.get(t) >= w) {
+                if (longestFrom(t) >= w) {
                     found = t + w;
                 }
                 if (t >= found) {
