@@ -1081,11 +1081,11 @@ public final class TapeStudio {
         // passing what may stand next; false, and the wrong token is next still
 
         private int kind() {
-            return entry(kinds, next, END);
+            return next >= 0 && next < kinds.length ? kinds[next] : END;
         }
 
         private int value() {
-            return entry(values, next, NONE);
+            return next >= 0 && next < values.length ? values[next] : NONE;
         }
 
         private boolean pass(int wanted) {
