@@ -214,10 +214,10 @@ public final class TapeStudio {
     }
 
     public int go(int n) {
-        if (n < 0 || n > MOST_DAYS_AT_ONCE || shelf.now + n > LAST_DAY) {
+        if (n < 0 || n > MOST_DAYS_AT_ONCE) {
             return NONE;
         }
-        shelf.now += n;
+        shelf.now = Math.min(LAST_DAY, shelf.now + n);
         return shelf.now;
     }
 

@@ -231,8 +231,9 @@ final class Model {
     }
 
     int go(int n) {
-        if (n < 0 || n > 100 || n > 400 - now) return NONE;
-        return now += n;
+        if (n < 0 || n > 100) return NONE;
+        for (int i = 0; i < n && now < 400; i++) now++;
+        return now;
     }
 
     int sample(int strip, int i) {

@@ -118,6 +118,7 @@ public final class PieceTest {
         TapeStudio x = new TapeStudio();
         Due.strip(x, 1, 2, 3);
         Due.strip(x, 100, 0, -100, 7, 7, 30000);
+        rowsOfOne();
         makes("26: loop", x, "a = take 0; z = loop a for 7;", 1, 2, 3, 1, 2, 3, 1);
         makes("26: a shorter loop", x, "a = take 0; z = loop a for 2;", 1, 2);
         fails("27: a loop for none", x, "a = take 0; z = loop a for 0;", 1);
@@ -131,6 +132,20 @@ public final class PieceTest {
         Due.strip(y, 32767, 3000, -32768, -3000);
         makes("26: no echo goes beyond", y, "a = take 0; z = echo a after 1 by 255;", 32767, 32767, -129, -3128);
         makes("26: nor below", y, "a = take 0; b = turn a; z = echo b after 1 by 255;", -3000, -32768, -29640, 3243);
+    }
+
+    private static void rowsOfOne() {
+        TapeStudio x = new TapeStudio();
+        Due.strip(x, 70, 80);
+        Due.strip(x, 90);
+        x.machine(100064, 0, 0);
+        makes("26: loop for 1", x, "a = take 0; z = loop a for 1;", 70);
+        makes("26: speed of two", x, "a = take 0; z = speed a 2 / 1;", 70);
+        makes("26: copy of two", x, "a = take 0; z = copy a on 0;", 70);
+        makes("26: splice of one with itself", x, "a = take 1; z = splice a a angle 1;", 90);
+        makes("26: one with its echo", x, "a = take 1; b = turn a; z = echo b after 1 by 9;", 90);
+        makes("26: one, filtered and faded", x, "a = take 1; b = filter a 9 64 9; z = fade b in 0 out 0;", 90);
+        makes("26: one, faded in", x, "a = take 1; z = fade a in 1 out 0;", 0);
     }
 
     private static void copy() {
@@ -450,6 +465,7 @@ public final class PieceTest {
         TapeStudio x = new TapeStudio();
         int bench = Due.score(x, "a = take 0; b = turn a; c = cut a from 0 to 1; d = loop a for 3; put d at 0 on 0;");
         turnsOf("33: at the bench one at most", x, bench, NONE, 1, 2, 3, NONE);
+        turnsOf("33: one step", x, Due.score(x, "a = take 0; b = turn a;"), NONE, 1);
         int chain = Due.score(x, "a = mark 0; b = gain a 1; c = splice a b angle 1; d = fade c in 0 out 0; e = turn a;");
         turnsOf("33: no machine", x, chain, NONE, NONE, NONE, NONE, NONE);
         x.machine(50064, 0, 0);

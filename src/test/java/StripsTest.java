@@ -24,6 +24,7 @@ public final class StripsTest {
         go();
         sampleAndTold();
         limitOfStrips();
+        theHundredth();
         limitOfSamples();
         Due.close();
     }
@@ -50,8 +51,10 @@ public final class StripsTest {
         Due.is("2: too many", x.hand(1, 1, 1, 1, 1), NONE);
         Due.is("2: nothing came then", x.count(4), 300);
         x.strip(1);
-        Due.is("2: nine would be free", x.hand(1, 1, 1, 1, 1), NONE);
-        x.strip(9);
+        Due.is("2: one is free", x.hand(1, 1, 1, 1, 1), NONE);
+        x.strip(8);
+        Due.is("2: nine are free", x.hand(1, 1, 1, 1, 1), NONE);
+        x.strip(1);
         Due.is("2: ten are free", x.hand(1, 1, 1, 1, 1), 300);
     }
 
@@ -488,11 +491,11 @@ public final class StripsTest {
         Due.is("19: 100 more", x.go(100), 200);
         Due.is("19: 99 more", x.go(99), 299);
         Due.is("19: 100 more", x.go(100), 399);
-        Due.is("19: beyond 400", x.go(2), NONE);
-        Due.is("19: nothing has changed", x.count(0), 399);
-        Due.is("19: up to 400", x.go(1), 400);
-        Due.is("19: beyond 400", x.go(1), NONE);
-        Due.is("19: no day more", x.go(0), 400);
+        Due.is("19: up to 400", x.go(2), 400);
+        Due.is("43: now", x.count(0), 400);
+        Due.is("19: no day more", x.go(100), 400);
+        Due.is("19: none", x.go(0), 400);
+        Due.is("19: 101", x.go(101), NONE);
     }
 
     private static void sampleAndTold() {
@@ -540,6 +543,21 @@ public final class StripsTest {
         Due.is("12: not worn by what is refused", x.told(98, 5), 10);
         Due.is("14: all stay", x.told(98, 1), 0);
         Due.is("43: 100 strips", x.count(1), 100);
+    }
+
+    private static void theHundredth() {
+        for (int how = 0; how < 6; how++) {
+            TapeStudio x = new TapeStudio();
+            x.machine(50064, 0, 0);
+            Due.strip(x, 1, 2);
+            Due.strip(x, 3, 4);
+            x.hand(1, 2, 3, 4, 5);
+            for (int i = 1; x.count(1) < (how == 5 ? 98 : 99); i++) x.turn(i);
+            int[] came = {how == 0 ? x.strip(2) : 0, how == 1 ? x.turn(0) : 0, how == 2 ? x.loop(0) : 0,
+                how == 3 ? x.splice(0, 98, 1) : 0, how == 4 ? x.speed(0, 0, 1, 1) : 0, how == 5 ? x.cut(0, 1) : 0};
+            Due.is("4 to 13: the 100th, made by " + how, came[how], how == 5 ? 98 : 99);
+            Due.is("4 to 13: 100 are there, by " + how, x.count(1), 100);
+        }
     }
 
     private static void limitOfSamples() {
