@@ -106,4 +106,19 @@ final class Due {
         is("score of it", x.score(), due == NONE ? 0 : NONE);
         is("bytes of it then", x.count(7), due == NONE ? 0 : text.length());
     }
+
+    /** Row z, put at 0 on track 0, is this. */
+    static void makes(String what, TapeStudio x, String text, int... due) {
+        int score = score(x, text + " put z at 0 on 0;");
+        is(what + ": fails", x.fails(score, x.count(0)), NONE);
+        is(what + ": made", x.make(score, x.count(0)), due.length);
+        piece(what, x, due);
+    }
+
+    /** Which order of this text fails. */
+    static void fails(String what, TapeStudio x, String text, int due) {
+        int score = score(x, text);
+        is(what + ": fails", x.fails(score, x.count(0)), due);
+        is(what + ": made", x.make(score, x.count(0)), NONE);
+    }
 }

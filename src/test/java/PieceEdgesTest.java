@@ -58,24 +58,10 @@ public final class PieceEdgesTest {
         return x;
     }
 
-    /** Row z, put at 0, is this. */
-    private static void makes(String what, TapeStudio x, String text, int... due) {
-        int score = Due.score(x, text + " put z at 0 on 0;");
-        Due.is(what + ": FAILS", x.fails(score, x.count(0)), NONE);
-        Due.is(what + ": made", x.make(score, x.count(0)), due.length);
-        Due.piece(what, x, due);
-    }
-
     /** How long row z is. */
     private static void longAs(String what, TapeStudio x, String text, int due) {
         int score = Due.score(x, text + " put z at 0 on 0;");
         Due.is(what + ": length", x.make(score, x.count(0)), due);
-    }
-
-    private static void fails(String what, TapeStudio x, String text, int due) {
-        int score = Due.score(x, text);
-        Due.is(what + ": FAILS", x.fails(score, x.count(0)), due);
-        Due.is(what + ": isn't made", x.make(score, x.count(0)), NONE);
     }
 
     private static void takeIsOfAStripThere() {
@@ -84,46 +70,46 @@ public final class PieceEdgesTest {
             if (i % 10 == 0) x.hand(0x30003, 0x30003, 0x30003, 0x30003, 0x30003);
             x.strip(1);
         }
-        makes("take: the first STRIP", x, "z = take 0;", 1, 2);
-        makes("take: the last STRIP", x, "z = take 99;", 3);
+        Due.makes("take: the first STRIP", x, "z = take 0;", 1, 2);
+        Due.makes("take: the last STRIP", x, "z = take 99;", 3);
         x.lose(99);
-        fails("take: a LOST one", x, "z = take 99;", 0);
+        Due.fails("take: a LOST one", x, "z = take 99;", 0);
         TapeStudio y = with(1, 2);
-        fails("take: none such", y, "z = take 1;", 0);
+        Due.fails("take: none such", y, "z = take 1;", 0);
         y.turn(0);
-        fails("take: a USED one", y, "a = take 1; z = take 0;", 1);
+        Due.fails("take: a USED one", y, "a = take 1; z = take 0;", 1);
     }
 
     private static void markIsOfTheLeastStripThere() {
         TapeStudio x = with(1);
         Due.strip(x, 2);
         Due.strip(x, 3);
-        fails("mark: none was read", x, "z = mark 0;", 0);
+        Due.fails("mark: none was read", x, "z = mark 0;", 0);
         x.read(2, 0);
         x.read(1, 999);
-        makes("mark 0", x, "z = mark 0;", 3);
-        makes("mark 999", x, "z = mark 999;", 2);
+        Due.makes("mark 0", x, "z = mark 0;", 3);
+        Due.makes("mark 999", x, "z = mark 999;", 2);
         x.read(0, 0);
-        makes("mark of the least", x, "z = mark 0;", 1);
+        Due.makes("mark of the least", x, "z = mark 0;", 1);
         x.lose(0);
-        makes("mark of the least THERE", x, "z = mark 0;", 3);
+        Due.makes("mark of the least THERE", x, "z = mark 0;", 3);
         x.read(2, 1);
-        fails("mark: read otherwise", x, "z = mark 0;", 0);
+        Due.fails("mark: read otherwise", x, "z = mark 0;", 0);
     }
 
     private static void cutIsFromBelowTo() {
         TapeStudio x = with(1, 2, 3, 4);
-        makes("cut from 0 to the length", x, "a = take 0; z = cut a from 0 to 4;", 1, 2, 3, 4);
-        makes("cut of the last", x, "a = take 0; z = cut a from 3 to 4;", 4);
-        makes("cut of the first", x, "a = take 0; z = cut a from 0 to 1;", 1);
-        fails("cut: to above its length", x, "a = take 0; z = cut a from 3 to 5;", 1);
-        fails("cut: from is to", x, "a = take 0; z = cut a from 4 to 4;", 1);
-        fails("cut: from is to, 0", x, "a = take 0; z = cut a from 0 to 0;", 1);
-        fails("cut: from above to", x, "a = take 0; z = cut a from 2 to 1;", 1);
+        Due.makes("cut from 0 to the length", x, "a = take 0; z = cut a from 0 to 4;", 1, 2, 3, 4);
+        Due.makes("cut of the last", x, "a = take 0; z = cut a from 3 to 4;", 4);
+        Due.makes("cut of the first", x, "a = take 0; z = cut a from 0 to 1;", 1);
+        Due.fails("cut: to above its length", x, "a = take 0; z = cut a from 3 to 5;", 1);
+        Due.fails("cut: from is to", x, "a = take 0; z = cut a from 4 to 4;", 1);
+        Due.fails("cut: from is to, 0", x, "a = take 0; z = cut a from 0 to 0;", 1);
+        Due.fails("cut: from above to", x, "a = take 0; z = cut a from 2 to 1;", 1);
         TapeStudio y = with(1, 2);
         longAs("cut up to 1500", y, "a = take 0; b = loop a for 1500; z = cut b from 0 to 1500;", 1500);
         longAs("cut of the 1500th", y, "a = take 0; b = loop a for 1500; z = cut b from 1499 to 1500;", 1);
-        fails("cut above 1499", y, "a = take 0; b = loop a for 1499; z = cut b from 0 to 1500;", 2);
+        Due.fails("cut above 1499", y, "a = take 0; b = loop a for 1499; z = cut b from 0 to 1500;", 2);
     }
 
     private static void speedUpTo1500() {
@@ -131,20 +117,20 @@ public final class PieceEdgesTest {
         // 1499 by 1 by 1; 749 * 2 + 1; 750 * 2 + 1; 1285 * 7 / 6 is 1499; 1286 * 7 / 6 is 1500
         longAs("speed: 1500", x, "a = take 0; b = loop a for 1500; z = speed b 1/1;", 1500);
         longAs("speed: 1499", x, "a = take 0; b = loop a for 750; z = speed b 1/2;", 1499);
-        fails("speed: 1501", x, "a = take 0; b = loop a for 751; z = speed b 1/2;", 2);
+        Due.fails("speed: 1501", x, "a = take 0; b = loop a for 751; z = speed b 1/2;", 2);
         longAs("speed 6/7: 1500", x, "a = take 0; b = loop a for 1286; z = speed b 6/7;", 1500);
-        fails("speed 6/7: 1501", x, "a = take 0; b = loop a for 1287; z = speed b 6/7;", 2);
+        Due.fails("speed 6/7: 1501", x, "a = take 0; b = loop a for 1287; z = speed b 6/7;", 2);
         longAs("speed 8/1 of two", x, "a = take 0; z = speed a 8/1;", 1);
     }
 
     private static void anglesNotAboveALength() {
         TapeStudio x = with(8, 8, 8);
         Due.strip(x, 4, 4, 4, 4);
-        makes("splice: angle as long as the one", x, "a = take 0; b = take 1; z = splice a b angle 3;", 7, 6, 5, 4);
-        makes("splice: angle as long as the other", x, "a = take 0; b = take 1; z = splice b a angle 3;", 4, 5, 6, 7);
-        fails("splice: angle above the one's length", x, "a = take 0; b = take 1; z = splice a b angle 4;", 2);
-        fails("splice: angle above the other's length", x, "a = take 0; b = take 1; z = splice b a angle 4;", 2);
-        makes("splice: with itself", x, "a = take 0; z = splice a a angle 3;", 8, 8, 8);
+        Due.makes("splice: angle as long as the one", x, "a = take 0; b = take 1; z = splice a b angle 3;", 7, 6, 5, 4);
+        Due.makes("splice: angle as long as the other", x, "a = take 0; b = take 1; z = splice b a angle 3;", 4, 5, 6, 7);
+        Due.fails("splice: angle above the one's length", x, "a = take 0; b = take 1; z = splice a b angle 4;", 2);
+        Due.fails("splice: angle above the other's length", x, "a = take 0; b = take 1; z = splice b a angle 4;", 2);
+        Due.makes("splice: with itself", x, "a = take 0; z = splice a a angle 3;", 8, 8, 8);
         Due.ramp(x, 41, 1);
         longAs("splice: angle 40", x, "a = take 2; z = splice a a angle 40;", 42);
     }
@@ -153,48 +139,48 @@ public final class PieceEdgesTest {
         TapeStudio x = with(1, 2);
         longAs("splice: 1500", x, "a = take 0; b = loop a for 750; z = splice b b angle 0;", 1500);
         longAs("splice: 1500", x, "a = take 0; b = loop a for 1500; z = splice b a angle 2;", 1500);
-        fails("splice: 1501", x, "a = take 0; b = loop a for 1500; z = splice b a angle 1;", 2);
-        fails("splice: 1501", x, "a = take 0; b = loop a for 751; c = loop a for 750; z = splice b c angle 0;", 3);
+        Due.fails("splice: 1501", x, "a = take 0; b = loop a for 1500; z = splice b a angle 1;", 2);
+        Due.fails("splice: 1501", x, "a = take 0; b = loop a for 751; c = loop a for 750; z = splice b c angle 0;", 3);
     }
 
     private static void loopTillThereAreSoMany() {
         TapeStudio x = with(7, 8, 9);
         Due.strip(x, 5);
-        fails("loop for 0", x, "a = take 0; z = loop a for 0;", 1);
-        makes("loop for 1", x, "a = take 0; z = loop a for 1;", 7);
-        makes("loop for its length", x, "a = take 0; z = loop a for 3;", 7, 8, 9);
-        makes("loop for one more", x, "a = take 0; z = loop a for 4;", 7, 8, 9, 7);
-        makes("loop of one sample", x, "a = take 1; z = loop a for 3;", 5, 5, 5);
+        Due.fails("loop for 0", x, "a = take 0; z = loop a for 0;", 1);
+        Due.makes("loop for 1", x, "a = take 0; z = loop a for 1;", 7);
+        Due.makes("loop for its length", x, "a = take 0; z = loop a for 3;", 7, 8, 9);
+        Due.makes("loop for one more", x, "a = take 0; z = loop a for 4;", 7, 8, 9, 7);
+        Due.makes("loop of one sample", x, "a = take 1; z = loop a for 3;", 5, 5, 5);
         longAs("loop for 1500", x, "a = take 1; z = loop a for 1500;", 1500);
         Due.is("loop for 1500: the last", x.out(1499), 5);
     }
 
     private static void echoFromTheAfterThOn() {
         TapeStudio x = with(100, 10, 20, 30);
-        makes("echo after its length less 1", x, "a = take 0; z = echo a after 3 by 128;", 100, 10, 20, 80);
-        makes("echo after its length", x, "a = take 0; z = echo a after 4 by 255;", 100, 10, 20, 30);
-        makes("echo after 500", x, "a = take 0; z = echo a after 500 by 255;", 100, 10, 20, 30);
-        makes("echo by 0", x, "a = take 0; z = echo a after 1 by 0;", 100, 10, 20, 30);
+        Due.makes("echo after its length less 1", x, "a = take 0; z = echo a after 3 by 128;", 100, 10, 20, 80);
+        Due.makes("echo after its length", x, "a = take 0; z = echo a after 4 by 255;", 100, 10, 20, 30);
+        Due.makes("echo after 500", x, "a = take 0; z = echo a after 500 by 255;", 100, 10, 20, 30);
+        Due.makes("echo by 0", x, "a = take 0; z = echo a after 1 by 0;", 100, 10, 20, 30);
         // 10 + 100*255/256, 20 + 109*255/256, 30 + 128*255/256: each as it is then
-        makes("echo after 1 by 255", x, "a = take 0; z = echo a after 1 by 255;", 100, 109, 128, 157);
+        Due.makes("echo after 1 by 255", x, "a = take 0; z = echo a after 1 by 255;", 100, 109, 128, 157);
         TapeStudio y = with(-100, -1, 1);
-        makes("echo toward 0", y, "a = take 0; z = echo a after 1 by 255;", -100, -100, -98);
+        Due.makes("echo toward 0", y, "a = take 0; z = echo a after 1 by 255;", -100, -100, -98);
     }
 
     private static void echoGoesNotBeyond() {
         TapeStudio x = with(32767, 32767, -32768, -32768, -32768);
         // 32767, -32768 + 32639, -32768 - 128, ..
-        makes("echo at the nearer end", x, "a = take 0; z = echo a after 1 by 255;", 32767, 32767, -129, -32768, -32768);
+        Due.makes("echo at the nearer end", x, "a = take 0; z = echo a after 1 by 255;", 32767, 32767, -129, -32768, -32768);
     }
 
     private static void copyByAMachineThatIs() {
         TapeStudio x = with(1, 2);
-        fails("copy: no MACHINE came", x, "a = take 0; z = copy a on 0;", 1);
+        Due.fails("copy: no MACHINE came", x, "a = take 0; z = copy a on 0;", 1);
         for (int i = 0; i < 3; i++) x.machine(50128, 0, 0);
-        makes("copy: the last that came", x, "a = take 0; z = copy a on 2;", 2, 4);
-        fails("copy: one behind", x, "a = take 0; z = copy a on 3;", 1);
+        Due.makes("copy: the last that came", x, "a = take 0; z = copy a on 2;", 2, 4);
+        Due.fails("copy: one behind", x, "a = take 0; z = copy a on 3;", 1);
         x.machine(50064, 0, 0);
-        makes("copy: the fourth", x, "a = take 0; z = copy a on 3;", 1, 2);
+        Due.makes("copy: the fourth", x, "a = take 0; z = copy a on 3;", 1, 2);
     }
 
     private static void copyUpTo1500() {
@@ -203,9 +189,9 @@ public final class PieceEdgesTest {
         x.machine(64, 0, 0);
         // 1495 * 1000 / 997 is 1499, 1496 * 1000 / 997 is 1500; 1424 * 1000 / 950 is 1498, 1425 * 1000 / 950 is 1500
         longAs("copy: 1500", x, "a = take 0; b = loop a for 1496; z = copy b on 0;", 1500);
-        fails("copy: 1501", x, "a = take 0; b = loop a for 1497; z = copy b on 0;", 2);
+        Due.fails("copy: 1501", x, "a = take 0; b = loop a for 1497; z = copy b on 0;", 2);
         longAs("copy: 1499", x, "a = take 0; b = loop a for 1425; z = copy b on 1;", 1499);
-        fails("copy: 1501", x, "a = take 0; b = loop a for 1426; z = copy b on 1;", 2);
+        Due.fails("copy: 1501", x, "a = take 0; b = loop a for 1426; z = copy b on 1;", 2);
         longAs("copy of one", x, "a = take 0; b = loop a for 1; z = copy b on 1;", 1);
     }
 
@@ -214,39 +200,39 @@ public final class PieceEdgesTest {
         Due.strip(x, 64);
         Due.strip(x, 32767, 32767, 32767);
         Due.strip(x, -32768, -32768);
-        makes("filter: 0 ahead of the first one", x, "a = take 0; z = filter a 1 0 0;", 0, 1, 2);
-        makes("filter: 0 behind the last one", x, "a = take 0; z = filter a 0 0 1;", 2, -1, 0);
-        makes("filter of one sample", x, "a = take 1; z = filter a 128 3 128;", 3);
-        makes("filter by 0", x, "a = take 0; z = filter a 0 0 0;", 0, 0, 0);
-        makes("filter by 128", x, "a = take 2; z = filter a 128 128 128;", 32767, 32767, 32767);
-        makes("filter by 128", x, "a = take 3; z = filter a 128 128 128;", -32768, -32768);
-        makes("filter by 64", x, "a = take 2; z = filter a 0 64 0;", 32767, 32767, 32767);
+        Due.makes("filter: 0 ahead of the first one", x, "a = take 0; z = filter a 1 0 0;", 0, 1, 2);
+        Due.makes("filter: 0 behind the last one", x, "a = take 0; z = filter a 0 0 1;", 2, -1, 0);
+        Due.makes("filter of one sample", x, "a = take 1; z = filter a 128 3 128;", 3);
+        Due.makes("filter by 0", x, "a = take 0; z = filter a 0 0 0;", 0, 0, 0);
+        Due.makes("filter by 128", x, "a = take 2; z = filter a 128 128 128;", 32767, 32767, 32767);
+        Due.makes("filter by 128", x, "a = take 3; z = filter a 128 128 128;", -32768, -32768);
+        Due.makes("filter by 64", x, "a = take 2; z = filter a 0 64 0;", 32767, 32767, 32767);
     }
 
     private static void fadesNotAboveTheLength() {
         TapeStudio x = with(60, 60, 60);
         Due.strip(x, 60);
-        makes("fade in 0 out 0", x, "a = take 0; z = fade a in 0 out 0;", 60, 60, 60);
-        makes("fade in 1 out 0", x, "a = take 0; z = fade a in 1 out 0;", 0, 60, 60);
-        makes("fade in 0 out 1", x, "a = take 0; z = fade a in 0 out 1;", 60, 60, 0);
-        makes("fade in its length", x, "a = take 0; z = fade a in 3 out 0;", 0, 20, 40);
-        makes("fade out its length", x, "a = take 0; z = fade a in 0 out 3;", 40, 20, 0);
-        makes("fade in ahead of out", x, "a = take 0; z = fade a in 3 out 3;", 0, 6, 0);
-        fails("fade in above it", x, "a = take 0; z = fade a in 4 out 0;", 1);
-        fails("fade out above it", x, "a = take 0; z = fade a in 0 out 4;", 1);
+        Due.makes("fade in 0 out 0", x, "a = take 0; z = fade a in 0 out 0;", 60, 60, 60);
+        Due.makes("fade in 1 out 0", x, "a = take 0; z = fade a in 1 out 0;", 0, 60, 60);
+        Due.makes("fade in 0 out 1", x, "a = take 0; z = fade a in 0 out 1;", 60, 60, 0);
+        Due.makes("fade in its length", x, "a = take 0; z = fade a in 3 out 0;", 0, 20, 40);
+        Due.makes("fade out its length", x, "a = take 0; z = fade a in 0 out 3;", 40, 20, 0);
+        Due.makes("fade in ahead of out", x, "a = take 0; z = fade a in 3 out 3;", 0, 6, 0);
+        Due.fails("fade in above it", x, "a = take 0; z = fade a in 4 out 0;", 1);
+        Due.fails("fade out above it", x, "a = take 0; z = fade a in 0 out 4;", 1);
         TapeStudio y = with(60);
-        makes("fade of one sample", y, "a = take 0; z = fade a in 1 out 1;", 0);
+        Due.makes("fade of one sample", y, "a = take 0; z = fade a in 1 out 1;", 0);
         longAs("fade 1500", y, "a = take 0; b = loop a for 1500; z = fade b in 1500 out 1500;", 1500);
-        fails("fade above 1499", y, "a = take 0; b = loop a for 1499; z = fade b in 1500 out 0;", 2);
-        fails("fade above 1499", y, "a = take 0; b = loop a for 1499; z = fade b in 0 out 1500;", 2);
+        Due.fails("fade above 1499", y, "a = take 0; b = loop a for 1499; z = fade b in 1500 out 0;", 2);
+        Due.fails("fade above 1499", y, "a = take 0; b = loop a for 1499; z = fade b in 0 out 1500;", 2);
     }
 
     private static void gainGoesNotBeyond() {
         TapeStudio x = with(16383, 16384, -16384, -16385, 1, -1);
-        makes("gain 128", x, "a = take 0; z = gain a 128;", 32766, 32767, -32768, -32768, 2, -2);
-        makes("gain 64", x, "a = take 0; z = gain a 64;", 16383, 16384, -16384, -16385, 1, -1);
-        makes("gain 63", x, "a = take 0; z = gain a 63;", 16127, 16128, -16128, -16128, 0, 0);
-        makes("gain 0", x, "a = take 0; z = gain a 0;", 0, 0, 0, 0, 0, 0);
+        Due.makes("gain 128", x, "a = take 0; z = gain a 128;", 32766, 32767, -32768, -32768, 2, -2);
+        Due.makes("gain 64", x, "a = take 0; z = gain a 64;", 16383, 16384, -16384, -16385, 1, -1);
+        Due.makes("gain 63", x, "a = take 0; z = gain a 63;", 16127, 16128, -16128, -16128, 0, 0);
+        Due.makes("gain 0", x, "a = take 0; z = gain a 0;", 0, 0, 0, 0, 0, 0);
     }
 
     private static void aPutEndsAt3000AtMost() {
@@ -256,11 +242,11 @@ public final class PieceEdgesTest {
         Due.is("28: the last", x.out(2999), 4);
         Due.is("28: behind it", x.out(3000), Due.NO_SAMPLE);
         longAs("a put at 1500 of fewer", x, whole + "z = take 0; put z at 1500 on 0;", 1502);
-        fails("in again up to 3001", x, whole + "again 2 by 1 { put b at 1500 on 0; }", 2);
+        Due.fails("in again up to 3001", x, whole + "again 2 by 1 { put b at 1500 on 0; }", 2);
         longAs("in again up to 3000", x, whole + "z = take 0; again 2 by 1 { put b at 1499 on 0; }", 3000);
-        fails("the second put of the lot", x, whole + "again 2 by 2 { put b at 1498 on 0; put b at 1499 on 0; }", 3);
-        fails("again 9 by 999", x, whole + "again 9 by 999 { put a at 0 on 0; }", 2);
-        fails("far beyond", x, whole + "again 9 by 999 { put b at 1500 on 15; }", 2);
+        Due.fails("the second put of the lot", x, whole + "again 2 by 2 { put b at 1498 on 0; put b at 1499 on 0; }", 3);
+        Due.fails("again 9 by 999", x, whole + "again 9 by 999 { put a at 0 on 0; }", 2);
+        Due.fails("far beyond", x, whole + "again 9 by 999 { put b at 1500 on 15; }", 2);
     }
 
     private static void inAgainTheLastLayingCounts() {
@@ -272,7 +258,7 @@ public final class PieceEdgesTest {
         Due.is("again: the last", x.out(2993), 4);
         longAs("again 4 by 999 up to 2999", x, "z = take 0; again 4 by 999 { put z at 0 on 0; }", 2999);
         longAs("again 4 by 999 up to 3000", x, "z = take 0; again 4 by 999 { put z at 1 on 0; }", 3000);
-        fails("again 4 by 999 up to 3001", x, "z = take 0; again 4 by 999 { put z at 2 on 0; }", 1);
+        Due.fails("again 4 by 999 up to 3001", x, "z = take 0; again 4 by 999 { put z at 2 on 0; }", 1);
     }
 
     private static void aPieceIs0LongWithoutPuts() {
@@ -292,33 +278,34 @@ public final class PieceEdgesTest {
 
     private static void eachSampleIsTheSum() {
         TapeStudio x = with(20000, -20000, 16383, -16384);
-        makes("sums at the nearer end", x, "a = take 0; z = gain a 64; put a at 0 on 1;", 32767, -32768, 32766, -32768);
-        makes("a sum of three", x, "a = take 0; z = gain a 64; b = turn a; put a at 0 on 0; put b at 0 on 1;",
+        Due.makes("sums at the nearer end", x, "a = take 0; z = gain a 64; put a at 0 on 1;", 32767, -32768, 32766, -32768);
+        Due.makes("a sum of three", x, "a = take 0; z = gain a 64; b = turn a; put a at 0 on 0; put b at 0 on 1;",
                 20000 + 20000 - 16384, -20000 - 20000 + 16383, 16383 + 16383 - 20000, -16384 - 16384 + 20000);
     }
 
     private static void playingWearsNothing() {
         TapeStudio x = with(1, 2, 3);
         x.machine(50064, 100, 200);
-        for (int i = 0; i < 2; i++) makes("plays", x, "a = take 0; b = copy a on 0; z = speed b 1/1;", 1, 2, 3);
+        for (int i = 0; i < 2; i++) Due.makes("plays", x, "a = take 0; b = copy a on 0; z = speed b 1/1;", 1, 2, 3);
         Due.facts("playing by a SCORE wears nothing", x, 0, 0, 0, 3, 0, 0, 0);
         Due.is("and nothing comes of it", x.count(1), 1);
         for (int i = 0; i < 5; i++) x.copy(0, 0);
-        makes("a WORN one is played by a SCORE", x, "a = take 0; z = copy a on 0;", 1, 2, 3);
+        Due.makes("a WORN one is played by a SCORE", x, "a = take 0; z = copy a on 0;", 1, 2, 3);
     }
 
     private static void theFirstThatFails() {
         TapeStudio x = with(1, 2, 3);
-        fails("27: the first order", x, "a = take 7; b = take 8; c = cut b from 2 to 1;", 0);
-        fails("27: the last order", x, "a = take 0; put a at 0 on 0; b = take 8;", 2);
-        fails("27: ahead of a put that FAILS", x, "a = take 0; b = cut a from 1 to 1; again 9 by 999 { put a at 0 on 0; }", 1);
-        fails("27: a put ahead", x, "a = take 0; again 9 by 999 { put a at 0 on 0; } b = cut a from 1 to 1;", 1);
+        Due.fails("27: the first order", x, "a = take 7; b = take 8; c = cut b from 2 to 1;", 0);
+        Due.fails("27: the last order", x, "a = take 0; put a at 0 on 0; b = take 8;", 2);
+        Due.fails("27: ahead of a put that FAILS", x, "a = take 0; b = cut a from 1 to 1; again 9 by 999 { put a at 0 on 0; }",
+                1);
+        Due.fails("27: a put ahead", x, "a = take 0; again 9 by 999 { put a at 0 on 0; } b = cut a from 1 to 1;", 1);
         int good = Due.score(x, "a = take 0;");
         Due.is("27: NONE if none", x.fails(good, 0), NONE);
         Due.is("43: that makes nothing", x.count(9), NONE);
         StringBuilder text = new StringBuilder("a=take 0;");
         for (int i = 0; i < 38; i++) text.append("put a at 0 on 0;");
-        fails("27: the 40th", x, text + "b=take 9;", 39);
+        Due.fails("27: the 40th", x, text + "b=take 9;", 39);
     }
 
     private static void daysOfMaking() {
@@ -608,7 +595,9 @@ public final class PieceEdgesTest {
     private static void turnOfNoStep() {
         TapeStudio x = new TapeStudio();
         Due.score(x, "a = take 0; b = turn a; c = mark 0; put b at 0 on 0;");
-        for (int order : new int[] {-1, 0, 2, 3, 4, 40, FAR, FAR_BELOW}) Due.is("34: no STEP, " + order, x.turnOf(0, order), NONE);
+        for (int order : new int[] {-1, 0, 2, 3, 4, 40, FAR, FAR_BELOW}) {
+            Due.is("34: no STEP, " + order, x.turnOf(0, order), NONE);
+        }
         Due.is("34: from 1 on", x.turnOf(0, 1), 1);
         // both of one STEP behind it: the heap of the first ones, 1, is the least
         Due.score(x, "a = take 0; b = turn a; c = turn b; d = turn a;");

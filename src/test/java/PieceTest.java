@@ -29,20 +29,6 @@ public final class PieceTest {
         Due.close();
     }
 
-    /** What a score makes that ends in a put of row z at 0 on 0. */
-    private static void makes(String what, TapeStudio x, String text, int... due) {
-        int score = Due.score(x, text + " put z at 0 on 0;");
-        Due.is(what + ": made", x.make(score, x.count(0)), due.length);
-        Due.is(what + ": fails", x.fails(score, x.count(0)), NONE);
-        Due.piece(what, x, due);
-    }
-
-    private static void fails(String what, TapeStudio x, String text, int due) {
-        int score = Due.score(x, text);
-        Due.is(what + ": fails", x.fails(score, x.count(0)), due);
-        Due.is(what + ": made", x.make(score, x.count(0)), NONE);
-    }
-
     private static void sources() {
         TapeStudio x = new TapeStudio();
         Due.strip(x, 1, 2, 3);
@@ -50,10 +36,10 @@ public final class PieceTest {
         Due.strip(x, 6);
         x.read(1, 7);
         x.read(2, 7);
-        makes("26: take", x, "z = take 0;", 1, 2, 3);
-        makes("26: mark of the least", x, "z = mark 7;", 4, 5);
-        fails("27: mark of none", x, "a = take 0; z = mark 8;", 1);
-        fails("27: take of none", x, "z = take 3;", 0);
+        Due.makes("26: take", x, "z = take 0;", 1, 2, 3);
+        Due.makes("26: mark of the least", x, "z = mark 7;", 4, 5);
+        Due.fails("27: mark of none", x, "a = take 0; z = mark 8;", 1);
+        Due.fails("27: take of none", x, "z = take 3;", 0);
         x.lose(1);
         Due.is("26: mark of the least there", x.make(1, 0), 1);
         Due.is("28: it", x.out(0), 6);
@@ -62,28 +48,28 @@ public final class PieceTest {
         x.loop(0);
         Due.is("27: take of a used one", x.fails(0, 0), 0);
         x.read(3, 9);
-        makes("26: of a loop, and the least of two", x, "a = mark 9; b = take 3; z = splice a b angle 0;", 6, 1, 2, 3);
-        fails("27: take of a lost one", x, "z = take 1;", 0);
+        Due.makes("26: of a loop, and the least of two", x, "a = mark 9; b = take 3; z = splice a b angle 0;", 6, 1, 2, 3);
+        Due.fails("27: take of a lost one", x, "z = take 1;", 0);
     }
 
     private static void cut() {
         TapeStudio x = new TapeStudio();
         Due.strip(x, 1, 2, 3, 4);
-        makes("26: cut", x, "a = take 0; z = cut a from 1 to 3;", 2, 3);
-        makes("26: cut of all", x, "a = take 0; z = cut a from 0 to 4;", 1, 2, 3, 4);
-        fails("27: cut beyond", x, "a = take 0; z = cut a from 1 to 5;", 1);
-        fails("27: cut of none", x, "a = take 0; z = cut a from 2 to 2;", 1);
-        fails("27: cut back", x, "a = take 0; z = cut a from 3 to 2;", 1);
-        fails("27: the first that fails", x, "a = take 0; b = cut a from 3 to 2; c = take 9; d = turn b;", 1);
-        fails("27: a row that is never put", x, "a = take 0; put a at 0 on 0; b = cut a from 4 to 5;", 2);
+        Due.makes("26: cut", x, "a = take 0; z = cut a from 1 to 3;", 2, 3);
+        Due.makes("26: cut of all", x, "a = take 0; z = cut a from 0 to 4;", 1, 2, 3, 4);
+        Due.fails("27: cut beyond", x, "a = take 0; z = cut a from 1 to 5;", 1);
+        Due.fails("27: cut of none", x, "a = take 0; z = cut a from 2 to 2;", 1);
+        Due.fails("27: cut back", x, "a = take 0; z = cut a from 3 to 2;", 1);
+        Due.fails("27: the first that fails", x, "a = take 0; b = cut a from 3 to 2; c = take 9; d = turn b;", 1);
+        Due.fails("27: a row that is never put", x, "a = take 0; put a at 0 on 0; b = cut a from 4 to 5;", 2);
     }
 
     private static void turnAndSpeed() {
         TapeStudio x = new TapeStudio();
         Due.strip(x, 0, 10, -5);
-        makes("26: turn", x, "a = take 0; z = turn a;", -5, 10, 0);
-        makes("26: speed", x, "a = take 0; z = speed a 1 / 2;", 0, 5, 10, 3, -5);
-        makes("26: speed 3 / 4", x, "a = take 0; z = speed a 3 / 4;", 0, 7, 3);
+        Due.makes("26: turn", x, "a = take 0; z = turn a;", -5, 10, 0);
+        Due.makes("26: speed", x, "a = take 0; z = speed a 1 / 2;", 0, 5, 10, 3, -5);
+        Due.makes("26: speed 3 / 4", x, "a = take 0; z = speed a 3 / 4;", 0, 7, 3);
         int[] most = new int[188];
         most[187] = 9;
         Due.strip(x, most);
@@ -92,24 +78,24 @@ public final class PieceTest {
         Due.is("28: the last", x.out(1499), 9);
         Due.is("28: one ahead", x.out(1498), 7);
         Due.strip(x, new int[189]);
-        fails("27: 1505 samples", x, "a = take 2; b = speed a 1 / 8;", 1);
-        fails("27: 1497 of them, turned, at 7 by 8", x, "a = take 1; b = speed a 1 / 8; c = turn b; d = speed c 7 / 8;", 3);
+        Due.fails("27: 1505 samples", x, "a = take 2; b = speed a 1 / 8;", 1);
+        Due.fails("27: 1497 of them, turned, at 7 by 8", x, "a = take 1; b = speed a 1 / 8; c = turn b; d = speed c 7 / 8;", 3);
     }
 
     private static void splice() {
         TapeStudio x = new TapeStudio();
         Due.strip(x, 10, 20, 30, -41);
         Due.strip(x, 4, 3, 2);
-        makes("26: splice", x, "a = take 0; b = take 1; z = splice a b angle 3;", 10, 16, 16, -8);
-        makes("26: splice with itself", x, "a = take 1; z = splice a a angle 1;", 4, 3, 3, 3, 2);
-        makes("26: splice at 0", x, "a = take 1; z = splice a a angle 0;", 4, 3, 2, 4, 3, 2);
-        fails("27: angle above the other's length", x, "a = take 0; b = take 1; c = splice a b angle 4;", 2);
-        fails("27: angle above the one's length", x, "a = take 0; b = take 1; c = splice b a angle 4;", 2);
+        Due.makes("26: splice", x, "a = take 0; b = take 1; z = splice a b angle 3;", 10, 16, 16, -8);
+        Due.makes("26: splice with itself", x, "a = take 1; z = splice a a angle 1;", 4, 3, 3, 3, 2);
+        Due.makes("26: splice at 0", x, "a = take 1; z = splice a a angle 0;", 4, 3, 2, 4, 3, 2);
+        Due.fails("27: angle above the other's length", x, "a = take 0; b = take 1; c = splice a b angle 4;", 2);
+        Due.fails("27: angle above the one's length", x, "a = take 0; b = take 1; c = splice b a angle 4;", 2);
         Due.ramp(x, 40, 1);
         int score = Due.score(x, "a = take 2; b = splice a a angle 40; put b at 0 on 0;");
         Due.is("26: angle 40", x.make(score, 0), 40);
         Due.is("28: angle 40", x.out(39), (39 * 1 + 39 * 40) / 41);
-        fails("27: 1501 samples", x, "a = take 1; b = loop a for 1499; c = splice b a angle 1;", 2);
+        Due.fails("27: 1501 samples", x, "a = take 1; b = loop a for 1499; c = splice b a angle 1;", 2);
         score = Due.score(x, "a = take 1; b = loop a for 1499; c = splice b a angle 2; put c at 1500 on 3;");
         Due.is("26: 1500 samples", x.make(score, 0), 3000);
     }
@@ -119,19 +105,19 @@ public final class PieceTest {
         Due.strip(x, 1, 2, 3);
         Due.strip(x, 100, 0, -100, 7, 7, 30000);
         rowsOfOne();
-        makes("26: loop", x, "a = take 0; z = loop a for 7;", 1, 2, 3, 1, 2, 3, 1);
-        makes("26: a shorter loop", x, "a = take 0; z = loop a for 2;", 1, 2);
-        fails("27: a loop for none", x, "a = take 0; z = loop a for 0;", 1);
+        Due.makes("26: loop", x, "a = take 0; z = loop a for 7;", 1, 2, 3, 1, 2, 3, 1);
+        Due.makes("26: a shorter loop", x, "a = take 0; z = loop a for 2;", 1, 2);
+        Due.fails("27: a loop for none", x, "a = take 0; z = loop a for 0;", 1);
         // 0, -100 + 50, 7 + 0, 7 - 25, 30000 + 3
-        makes("26: echo", x, "a = take 1; z = echo a after 2 by 128;", 100, 0, -50, 7, -18, 30003);
+        Due.makes("26: echo", x, "a = take 1; z = echo a after 2 by 128;", 100, 0, -50, 7, -18, 30003);
         // each has what is ahead of it already: 100, 99, -100 + 98, 7 - 1, 7 + 5, 30000 + 11
-        makes("26: echo of echoes", x, "a = take 1; z = echo a after 1 by 255;", 100, 99, -2, 6, 12, 30011);
-        makes("26: echo behind the end", x, "a = take 0; z = echo a after 3 by 255;", 1, 2, 3);
-        makes("26: echo of the first", x, "a = take 0; z = echo a after 2 by 255;", 1, 2, 3);
+        Due.makes("26: echo of echoes", x, "a = take 1; z = echo a after 1 by 255;", 100, 99, -2, 6, 12, 30011);
+        Due.makes("26: echo behind the end", x, "a = take 0; z = echo a after 3 by 255;", 1, 2, 3);
+        Due.makes("26: echo of the first", x, "a = take 0; z = echo a after 2 by 255;", 1, 2, 3);
         TapeStudio y = new TapeStudio();
         Due.strip(y, 32767, 3000, -32768, -3000);
-        makes("26: no echo goes beyond", y, "a = take 0; z = echo a after 1 by 255;", 32767, 32767, -129, -3128);
-        makes("26: nor below", y, "a = take 0; b = turn a; z = echo b after 1 by 255;", -3000, -32768, -29640, 3243);
+        Due.makes("26: no echo goes beyond", y, "a = take 0; z = echo a after 1 by 255;", 32767, 32767, -129, -3128);
+        Due.makes("26: nor below", y, "a = take 0; b = turn a; z = echo b after 1 by 255;", -3000, -32768, -29640, 3243);
     }
 
     private static void rowsOfOne() {
@@ -139,26 +125,26 @@ public final class PieceTest {
         Due.strip(x, 70, 80);
         Due.strip(x, 90);
         x.machine(100064, 0, 0);
-        makes("26: loop for 1", x, "a = take 0; z = loop a for 1;", 70);
-        makes("26: speed of two", x, "a = take 0; z = speed a 2 / 1;", 70);
-        makes("26: copy of two", x, "a = take 0; z = copy a on 0;", 70);
-        makes("26: splice of one with itself", x, "a = take 1; z = splice a a angle 1;", 90);
-        makes("26: one with its echo", x, "a = take 1; b = turn a; z = echo b after 1 by 9;", 90);
-        makes("26: one, filtered and faded", x, "a = take 1; b = filter a 9 64 9; z = fade b in 0 out 0;", 90);
-        makes("26: one, faded in", x, "a = take 1; z = fade a in 1 out 0;", 0);
+        Due.makes("26: loop for 1", x, "a = take 0; z = loop a for 1;", 70);
+        Due.makes("26: speed of two", x, "a = take 0; z = speed a 2 / 1;", 70);
+        Due.makes("26: copy of two", x, "a = take 0; z = copy a on 0;", 70);
+        Due.makes("26: splice of one with itself", x, "a = take 1; z = splice a a angle 1;", 90);
+        Due.makes("26: one with its echo", x, "a = take 1; b = turn a; z = echo b after 1 by 9;", 90);
+        Due.makes("26: one, filtered and faded", x, "a = take 1; b = filter a 9 64 9; z = fade b in 0 out 0;", 90);
+        Due.makes("26: one, faded in", x, "a = take 1; z = fade a in 1 out 0;", 0);
     }
 
     private static void copy() {
         TapeStudio x = new TapeStudio();
         Due.strip(x, -7, 0, -5, 300, -301);
-        fails("27: no machine", x, "a = take 0; z = copy a on 0;", 1);
+        Due.fails("27: no machine", x, "a = take 0; z = copy a on 0;", 1);
         x.machine(60033, 9, 200);
-        makes("26: copy", x, "a = take 0; z = copy a on 0;", -3, 0, 0, 145);
+        Due.makes("26: copy", x, "a = take 0; z = copy a on 0;", -3, 0, 0, 145);
         Due.is("26: nothing is worn", x.told(0, 5), 0);
         Due.is("26: nothing came", x.count(1), 1);
-        fails("27: no such machine", x, "a = take 0; z = copy a on 1;", 1);
+        Due.fails("27: no such machine", x, "a = take 0; z = copy a on 1;", 1);
         x.machine(128, 0, 0);
-        fails("27: 1578 samples", x, "a = take 0; b = loop a for 1500; c = copy b on 1;", 2);
+        Due.fails("27: 1578 samples", x, "a = take 0; b = loop a for 1500; c = copy b on 1;", 2);
         int score = Due.score(x, "a = take 0; b = loop a for 1425; c = copy b on 1; put c at 0 on 0;");
         Due.is("26: 1424 * 1000 / 950 + 1", x.make(score, 0), 1499);
     }
@@ -167,30 +153,30 @@ public final class PieceTest {
         TapeStudio x = new TapeStudio();
         Due.strip(x, 10, -20, 30, 31000);
         // the first: (10*64 - 20*128)/64; then (10*32 - 20*64 + 30*128)/64, (-20*32 + 30*64 + 31000*128)/64, (30*32 + 31000*64)/64
-        makes("26: filter", x, "a = take 0; z = filter a 32 64 128;", -30, 45, 32767, 31015);
-        makes("26: filter ahead", x, "a = take 0; z = filter a 64 0 0;", 0, 10, -20, 30);
-        makes("26: filter next", x, "a = take 0; z = filter a 0 0 64;", -20, 30, 31000, 0);
-        makes("26: filter toward 0", x, "a = take 0; z = filter a 0 3 0;", 0, 0, 1, 1453);
+        Due.makes("26: filter", x, "a = take 0; z = filter a 32 64 128;", -30, 45, 32767, 31015);
+        Due.makes("26: filter ahead", x, "a = take 0; z = filter a 64 0 0;", 0, 10, -20, 30);
+        Due.makes("26: filter next", x, "a = take 0; z = filter a 0 0 64;", -20, 30, 31000, 0);
+        Due.makes("26: filter toward 0", x, "a = take 0; z = filter a 0 3 0;", 0, 0, 1, 1453);
     }
 
     private static void fadeAndGain() {
         TapeStudio x = new TapeStudio();
         Due.strip(x, 100, 100, -100, 100, 100);
-        makes("26: fade in", x, "a = take 0; z = fade a in 3 out 0;", 0, 33, -66, 100, 100);
-        makes("26: fade out", x, "a = take 0; z = fade a in 0 out 3;", 100, 100, -66, 33, 0);
+        Due.makes("26: fade in", x, "a = take 0; z = fade a in 3 out 0;", 0, 33, -66, 100, 100);
+        Due.makes("26: fade out", x, "a = take 0; z = fade a in 0 out 3;", 100, 100, -66, 33, 0);
         // in first: 0 20 -40 60 80; then by 4/5, 3/5 ..
-        makes("26: both", x, "a = take 0; z = fade a in 5 out 5;", 0, 12, -16, 12, 0);
-        makes("26: neither", x, "a = take 0; z = fade a in 0 out 0;", 100, 100, -100, 100, 100);
-        fails("27: in above the length", x, "a = take 0; z = fade a in 6 out 0;", 1);
-        fails("27: out above the length", x, "a = take 0; z = fade a in 0 out 6;", 1);
-        makes("26: gain", x, "a = take 0; z = gain a 33;", 51, 51, -51, 51, 51);
-        makes("26: gain 0", x, "a = take 0; z = gain a 0;", 0, 0, 0, 0, 0);
+        Due.makes("26: both", x, "a = take 0; z = fade a in 5 out 5;", 0, 12, -16, 12, 0);
+        Due.makes("26: neither", x, "a = take 0; z = fade a in 0 out 0;", 100, 100, -100, 100, 100);
+        Due.fails("27: in above the length", x, "a = take 0; z = fade a in 6 out 0;", 1);
+        Due.fails("27: out above the length", x, "a = take 0; z = fade a in 0 out 6;", 1);
+        Due.makes("26: gain", x, "a = take 0; z = gain a 33;", 51, 51, -51, 51, 51);
+        Due.makes("26: gain 0", x, "a = take 0; z = gain a 0;", 0, 0, 0, 0, 0);
         TapeStudio y = new TapeStudio();
         Due.strip(y, 20000, -20000, 1, -1);
-        makes("26: gain 128", y, "a = take 0; z = gain a 128;", 32767, -32768, 2, -2);
+        Due.makes("26: gain 128", y, "a = take 0; z = gain a 128;", 32767, -32768, 2, -2);
         Due.strip(y, 7, -9, 5);
         // 7 * 0 / 2, -9 * 1 / 2 = -4, then -4 * 1 / 2 = -2, 5 * 0 / 2
-        makes("26: fade in ahead of out", y, "a = take 1; z = fade a in 2 out 2;", 0, -2, 0);
+        Due.makes("26: fade in ahead of out", y, "a = take 1; z = fade a in 2 out 2;", 0, -2, 0);
     }
 
     private static void puts() {
@@ -222,7 +208,7 @@ public final class PieceTest {
         int score = Due.score(x, "a = take 0; b = loop a for 1500; put b at 1500 on 0; put a at 9 on 0;");
         Due.is("26: 3000 long", x.make(score, 0), 3000);
         Due.is("28: the last", x.out(2999), 8);
-        fails("27: beyond 3000", x, "a = take 0; put a at 0 on 0; again 9 by 187 { put a at 1500 on 0; put a at 1499 on 0; }"
+        Due.fails("27: beyond 3000", x, "a = take 0; put a at 0 on 0; again 9 by 187 { put a at 1500 on 0; put a at 1499 on 0; }"
                 + " again 4 by 500 { put a at 1499 on 0; }", 4);
         score = Due.score(x, "a = take 0; again 4 by 500 { put a at 1498 on 0; }");
         Due.is("26: again up to 3000", x.make(score, 0), 3000);

@@ -762,6 +762,9 @@ public final class StripEdgesTest {
         Due.is("19: up to 400: 399", x.go(98), 399);
         Due.is("19: up to 400: 400", x.go(1), 400);
         Due.is("19: 0 more", x.go(0), 400);
+        Due.is("19: no further than 400: 1", x.go(1), 400);
+        Due.is("19: no further than 400: 100", x.go(100), 400);
+        Due.is("43: NOW", x.count(0), 400);
         Due.strip(x, 1);
         x.read(0, 3);
         Due.is("21: the last day", x.told(0, 7), 400);

@@ -414,7 +414,9 @@ public final class TapeEdgesTest {
         for (int what = 0; what <= 8; what++) Due.is("43: of nothing, " + what, x.count(what), 0);
         Due.is("43: no SCORE was MADE", x.count(9), NONE);
         Due.is("43: no PIECE", x.count(10), NONE);
-        for (int what : new int[] {-1, 11, 12, 19, 20, 27, 28, FAR, FAR_BELOW}) Due.is("43: others, " + what, x.count(what), NONE);
+        for (int what : new int[] {-1, 11, 12, 19, 20, 27, 28, FAR, FAR_BELOW}) {
+            Due.is("43: others, " + what, x.count(what), NONE);
+        }
         Due.score(x, "");
         Due.is("43: the first SCORE", x.count(20), 0);
         Due.is("43: no second SCORE", x.count(21), NONE);
